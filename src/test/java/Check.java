@@ -13,6 +13,11 @@ final class Check {
         Object answer();
     }
 
+    /** A call on a talk, which may throw. */
+    interface Use {
+        Object on(SplicedTalk talk);
+    }
+
     void is(String what, Object got, Object due) {
         checked++;
         if (!due.equals(got)) {
@@ -39,6 +44,35 @@ final class Check {
         long before = talk.digest();
         isThrown(what, due, call);
         is(what + " and the digest then", talk.digest(), before);
+    }
+
+    /**
+     * The call on the talk that the calls have made throws just that exception, and the talk is afterwards as
+     * a twin on which it was never called, in all that can be asked and in what comes then.
+     */
+    void refuses(String what, Class<? extends RuntimeException> due, String calls, Use use) {
+        SplicedTalk talk = Talks.of(calls);
+        isThrown(what, due, () -> use.on(talk));
+        isAsTwin(what, talk, calls);
+    }
+
+    /** The call on the talk that the calls have made answers that, and changes nothing. */
+    void asks(String what, Object due, String calls, Use use) {
+        SplicedTalk talk = Talks.of(calls);
+        is(what, answerOf(() -> use.on(talk)), due);
+        isAsTwin(what, talk, calls);
+    }
+
+    /** The call on the talk that the calls have made answers that, whatever it changes. */
+    void does(String what, Object due, String calls, Use use) {
+        SplicedTalk talk = Talks.of(calls);
+        is(what, answerOf(() -> use.on(talk)), due);
+    }
+
+    private void isAsTwin(String what, SplicedTalk talk, String calls) {
+        SplicedTalk twin = Talks.of(calls);
+        is(what + ", the talk then", Talks.picture(talk), Talks.picture(twin));
+        is(what + ", what comes then", Talks.sequel(talk), Talks.sequel(twin));
     }
 
     void exit() {

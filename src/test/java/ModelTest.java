@@ -435,7 +435,8 @@ public final class ModelTest {
                 same("digest", x::digest, m::digest);
             }
             askWhole(x, m);
-            for (int n = -2; n < 26; n++) {
+            // every other number, so that no object is asked more than 512 times
+            for (int n = -2 + run % 2; n < 26; n += 2) {
                 askParts(x, m, n);
             }
             askWhole(x, m);

@@ -30,38 +30,6 @@ public final class PromiseTest {
         CHECK.exit();
     }
 
-    /** A talk from a text: "03" is a word of speaker 0 with topic 3, "2c" a cough of speaker 2. */
-    private static SplicedTalk talk(String remarks) {
-        SplicedTalk talk = new SplicedTalk();
-        for (String remark : remarks.trim().split(" +")) {
-            int speaker = remark.charAt(0) - '0';
-            if (remark.charAt(1) == 'c') {
-                talk.cough(speaker);
-            } else {
-                talk.say(speaker, remark.charAt(1) - '0');
-            }
-        }
-        return talk;
-    }
-
-    private static String row(SplicedTalk talk) {
-        StringBuilder row = new StringBuilder();
-        int word = 0;
-        for (int place = 0; place < talk.remarks(); place++) {
-            row.append(place == 0 ? "" : " ").append(talk.speakerAt(place));
-            row.append(talk.isCough(place) ? "c" : String.valueOf(talk.topicOf(word++)));
-        }
-        return row.toString();
-    }
-
-    private static String ties(SplicedTalk talk) {
-        StringBuilder ties = new StringBuilder();
-        for (int gap = 0; gap < talk.words() - 1; gap++) {
-            ties.append(talk.isTied(gap) ? 't' : '-');
-        }
-        return ties.toString();
-    }
-
     private static SplicedTalk fullTalk() {
         SplicedTalk talk = new SplicedTalk();
         for (int i = 0; i < 24; i++) {
@@ -107,7 +75,7 @@ public final class PromiseTest {
         CHECK.is("2 second", x.say(0, 9), 1);
         CHECK.is("2 third", x.say(5, 0), 2);
         CHECK.is("3 fourth", x.cough(0), 3);
-        CHECK.is("2 3 row", row(x), "5c 09 50 0c");
+        CHECK.is("2 3 row", Talks.row(x), "5c 09 50 0c");
         for (int bad : NO_SPEAKERS) {
             CHECK.refuses(x, "2 speaker " + bad, INDEX, () -> x.say(bad, 0));
             CHECK.refuses(x, "2 speaker and topic " + bad, INDEX, () -> x.say(bad, -1));
@@ -124,31 +92,31 @@ public final class PromiseTest {
         CHECK.refuses(full, "3 full", STATE, () -> full.cough(0));
         CHECK.refuses(full, "3 full, speaker", INDEX, () -> full.cough(-1));
 
-        SplicedTalk tied = talk("00 05 0c");
+        SplicedTalk tied = Talks.of("00 05 0c");
         tied.tie(0);
         tied.removeCough(2);
         tied.say(1, 5);
-        CHECK.is("2 the gap ahead is not tied", ties(tied), "t-");
+        CHECK.is("2 the gap ahead is not tied", Talks.ties(tied), "t-");
     }
 
     // Promise 4
     private static void removeCough() {
-        SplicedTalk x = talk("0c 13 2c 3c 48 5c");
+        SplicedTalk x = Talks.of("0c 13 2c 3c 48 5c");
         x.tie(0);
         CHECK.is("4 middle", x.removeCough(2), 5);
-        CHECK.is("4 row", row(x), "0c 13 3c 48 5c");
+        CHECK.is("4 row", Talks.row(x), "0c 13 3c 48 5c");
         CHECK.is("4 patience", x.patience(), 26);
         CHECK.is("4 spent", x.spent(), 4);
         CHECK.is("4 first", x.removeCough(0), 4);
-        CHECK.is("4 the tie moves along", ties(x), "t");
+        CHECK.is("4 the tie moves along", Talks.ties(x), "t");
         CHECK.is("4 last", x.removeCough(3), 3);
-        CHECK.is("4 row then", row(x), "13 3c 48");
+        CHECK.is("4 row then", Talks.row(x), "13 3c 48");
         CHECK.refuses(x, "4 word", STATE, () -> x.removeCough(0));
         for (int bad : new int[] {-1, 3, 4, Integer.MIN_VALUE, Integer.MAX_VALUE}) {
             CHECK.refuses(x, "4 place " + bad, INDEX, () -> x.removeCough(bad));
         }
 
-        SplicedTalk poor = talk("00 00 00 00 00 00 00 00 00 00 00 00 0c 1c");
+        SplicedTalk poor = Talks.of("00 00 00 00 00 00 00 00 00 00 00 00 0c 1c");
         tieFirst(poor, 9);
         poor.splice(10);
         CHECK.is("4 last patience", poor.patience(), 1);
@@ -162,10 +130,10 @@ public final class PromiseTest {
 
     // Promise 5
     private static void tie() {
-        SplicedTalk x = talk("00 15 2c 30 45");
+        SplicedTalk x = Talks.of("00 15 2c 30 45");
         CHECK.is("5 before", x.threads(), 4);
         CHECK.is("5 middle", x.tie(1), 3);
-        CHECK.is("5 ties", ties(x), "-t-");
+        CHECK.is("5 ties", Talks.ties(x), "-t-");
         CHECK.is("5 patience", x.patience(), 27);
         CHECK.is("5 spent", x.spent(), 3);
         CHECK.is("5 first", x.tie(0), 2);
@@ -174,11 +142,11 @@ public final class PromiseTest {
         for (int bad : new int[] {-1, 3, Integer.MIN_VALUE, Integer.MAX_VALUE}) {
             CHECK.refuses(x, "5 gap " + bad, INDEX, () -> x.tie(bad));
         }
-        SplicedTalk smooth = talk("00 00");
+        SplicedTalk smooth = Talks.of("00 00");
         CHECK.is("5 a smooth gap", smooth.tie(0), 1);
         CHECK.is("5 it costs as well", smooth.patience(), 27);
 
-        SplicedTalk poor = talk("00 00 00 00 00 00 00 00 00 00 00 00 0c");
+        SplicedTalk poor = Talks.of("00 00 00 00 00 00 00 00 00 00 00 00 0c");
         tieFirst(poor, 9);
         poor.removeCough(12);
         CHECK.is("5 2 patience", poor.patience(), 2);
@@ -191,33 +159,33 @@ public final class PromiseTest {
 
     // Promise 6
     private static void splice() {
-        SplicedTalk x = talk("0c 10 2c 3c 44 5c 16");
+        SplicedTalk x = Talks.of("0c 10 2c 3c 44 5c 16");
         x.tie(1);
         CHECK.is("6 topic", x.splice(0), 2);
-        CHECK.is("6 row", row(x), "0c 10 12 2c 3c 44 5c 16");
-        CHECK.is("6 ties", ties(x), "--t");
+        CHECK.is("6 row", Talks.row(x), "0c 10 12 2c 3c 44 5c 16");
+        CHECK.is("6 ties", Talks.ties(x), "--t");
         CHECK.is("6 coughs ahead", x.coughsIn(0), 0);
         CHECK.is("6 coughs behind", x.coughsIn(1), 2);
         CHECK.is("6 patience", x.patience(), 25);
         CHECK.is("6 spent", x.spent(), 5);
 
-        SplicedTalk last = talk("00 11 22 23");
+        SplicedTalk last = Talks.of("00 11 22 23");
         tieFirst(last, 2);
         CHECK.is("6 last gap", last.splice(2), 2);
-        CHECK.is("6 last gap, row", row(last), "00 11 22 22 23");
-        CHECK.is("6 last gap, ties", ties(last), "tt--");
+        CHECK.is("6 last gap, row", Talks.row(last), "00 11 22 22 23");
+        CHECK.is("6 last gap, ties", Talks.ties(last), "tt--");
 
-        SplicedTalk stale = talk("00 05 0c");
+        SplicedTalk stale = Talks.of("00 05 0c");
         stale.tie(0);
         stale.removeCough(2);
         stale.say(0, 0);
         stale.splice(1);
-        CHECK.is("6 new gaps are not tied", ties(stale), "t--");
+        CHECK.is("6 new gaps are not tied", Talks.ties(stale), "t--");
 
-        SplicedTalk behindTie = talk("00 05 00 05");
+        SplicedTalk behindTie = Talks.of("00 05 00 05");
         behindTie.tie(1);
         behindTie.splice(0);
-        CHECK.is("6 tie moves along", ties(behindTie), "--t-");
+        CHECK.is("6 tie moves along", Talks.ties(behindTie), "--t-");
     }
 
     private static void spliceTopics() {
@@ -231,13 +199,13 @@ public final class PromiseTest {
                 x.say(4, to);
                 int due = (from + half + 10) % 10;
                 CHECK.is("6 from " + from + " to " + to, x.splice(0), due);
-                CHECK.is("6 row", row(x), "3" + from + " 3" + due + " 4" + to);
+                CHECK.is("6 row", Talks.row(x), "3" + from + " 3" + due + " 4" + to);
             }
         }
     }
 
     private static void spliceRefusals() {
-        SplicedTalk x = talk("00 15 20");
+        SplicedTalk x = Talks.of("00 15 20");
         x.tie(0);
         CHECK.refuses(x, "6 tied", STATE, () -> x.splice(0));
         for (int bad : new int[] {-1, 2, Integer.MIN_VALUE, Integer.MAX_VALUE}) {
@@ -254,7 +222,7 @@ public final class PromiseTest {
         CHECK.is("6 the last room", almostFull.splice(21), 0);
         CHECK.refuses(almostFull, "6 full then", STATE, () -> almostFull.splice(0));
 
-        SplicedTalk poor = talk("00 00 00 00 00 00 00 00 00 00 00 00 0c 0c");
+        SplicedTalk poor = Talks.of("00 00 00 00 00 00 00 00 00 00 00 00 0c 0c");
         tieFirst(poor, 9);
         poor.removeCough(13);
         poor.removeCough(12);
@@ -291,7 +259,7 @@ public final class PromiseTest {
 
     // Promises 8 to 17
     private static void whatThereIs() {
-        SplicedTalk x = talk("5c 03 2c 19 0c 00 1c");
+        SplicedTalk x = Talks.of("5c 03 2c 19 0c 00 1c");
         CHECK.is("8", x.remarks(), 7);
         CHECK.is("9", x.words(), 3);
         CHECK.is("10", x.coughs(), 4);
@@ -303,7 +271,7 @@ public final class PromiseTest {
         x.rest(60);
         CHECK.is("11 after a rest", x.patience(), 84);
         CHECK.is("12 after a rest", x.spent(), 6);
-        CHECK.is("13 to 16 row", row(x), "03 2c 19 19 0c 00 1c");
+        CHECK.is("13 to 16 row", Talks.row(x), "03 2c 19 19 0c 00 1c");
         int[] places = {0, 2, 3, 5};
         int[] topics = {3, 9, 9, 0};
         for (int word = 0; word < 4; word++) {
@@ -320,7 +288,7 @@ public final class PromiseTest {
         for (int speaker = 0; speaker < 6; speaker++) {
             CHECK.is("17", x.wordsOf(speaker), said[speaker]);
         }
-        CHECK.is("17 last speaker", talk("5c 53 54").wordsOf(5), 2);
+        CHECK.is("17 last speaker", Talks.of("5c 53 54").wordsOf(5), 2);
         for (int bad : NO_SPEAKERS) {
             CHECK.refuses(x, "17 speaker " + bad, INDEX, () -> x.wordsOf(bad));
             CHECK.refuses(x, "30 speaker " + bad, INDEX, () -> x.threadsOf(bad));
@@ -329,7 +297,7 @@ public final class PromiseTest {
 
     // Promises 18 to 20
     private static void gaps() {
-        SplicedTalk x = talk("0c 0c 09 1c 10 21 2c 3c 4c 56 5c");
+        SplicedTalk x = Talks.of("0c 0c 09 1c 10 21 2c 3c 4c 56 5c");
         int[] coughs = {1, 0, 3};
         int[] strains = {2, 1, 8};
         x.tie(1);
@@ -364,21 +332,21 @@ public final class PromiseTest {
             for (int coughs = Math.max(0, strain - 5); coughs <= strain; coughs++) {
                 String between = " 3c".repeat(coughs) + " ";
                 int topic = strain - coughs;
-                kind("two speakers, " + strain, talk("01" + between + "1" + (1 + topic)), ofTwo[strain]);
-                kind("one speaker, " + strain, talk("28" + between + "2" + (8 + topic) % 10), ofOne[strain]);
-                SplicedTalk tied = talk("01" + between + "1" + (1 + topic));
+                kind("two speakers, " + strain, Talks.of("01" + between + "1" + (1 + topic)), ofTwo[strain]);
+                kind("one speaker, " + strain, Talks.of("28" + between + "2" + (8 + topic) % 10), ofOne[strain]);
+                SplicedTalk tied = Talks.of("01" + between + "1" + (1 + topic));
                 tied.tie(0);
                 kind("tied, " + strain, tied, "smooth");
             }
         }
-        SplicedTalk x = talk("00 15 25 27 14 14 10 13");
+        SplicedTalk x = Talks.of("00 15 25 27 14 14 10 13");
         CHECK.is("24 several", x.brokenGaps(), 2);
         CHECK.is("25 several", x.politeGaps(), 3);
     }
 
     // Promises 26 to 32
     private static void threads() {
-        SplicedTalk x = talk("0c 00 01 15 16 25 00 0c");
+        SplicedTalk x = Talks.of("0c 00 01 15 16 25 00 0c");
         CHECK.is("26", x.threads(), 3);
         int[] threads = {0, 0, 1, 1, 1, 2};
         for (int word = 0; word < 6; word++) {
@@ -400,25 +368,25 @@ public final class PromiseTest {
         CHECK.is("28 tied", x.lengthOf(0), 5);
         CHECK.is("29 tied", x.longestThread(), 0);
         CHECK.is("31 tied", x.topicsIn(0), 4);
-        CHECK.is("29 of two the first", talk("00 15 16 20 31").longestThread(), 1);
-        CHECK.is("29 of three the first", talk("00 15 20").longestThread(), 0);
-        CHECK.is("26 coughs alone", talk("0c 1c").threads(), 0);
-        CHECK.is("29 coughs alone", talk("0c 1c").longestThread(), -1);
-        CHECK.is("26 one word", talk("0c 13").threads(), 1);
-        CHECK.is("30 last speaker", talk("50 55 50").threadsOf(5), 3);
-        CHECK.is("31 all topics", talk("00 01 02 03 04 05 06 07 08 09 00").topicsIn(0), 10);
-        SplicedTalk removed = talk("00 1c 1c 13");
+        CHECK.is("29 of two the first", Talks.of("00 15 16 20 31").longestThread(), 1);
+        CHECK.is("29 of three the first", Talks.of("00 15 20").longestThread(), 0);
+        CHECK.is("26 coughs alone", Talks.of("0c 1c").threads(), 0);
+        CHECK.is("29 coughs alone", Talks.of("0c 1c").longestThread(), -1);
+        CHECK.is("26 one word", Talks.of("0c 13").threads(), 1);
+        CHECK.is("30 last speaker", Talks.of("50 55 50").threadsOf(5), 3);
+        CHECK.is("31 all topics", Talks.of("00 01 02 03 04 05 06 07 08 09 00").topicsIn(0), 10);
+        SplicedTalk removed = Talks.of("00 1c 1c 13");
         removed.removeCough(1);
         CHECK.is("26 still broken", removed.threads(), 2);
-        SplicedTalk mended = talk("00 1c 12");
+        SplicedTalk mended = Talks.of("00 1c 12");
         CHECK.is("26 broken by a cough", mended.threads(), 2);
         mended.removeCough(1);
         CHECK.is("26 mended", mended.threads(), 1);
     }
 
     private static void costs(String remarks, int due) {
-        CHECK.is("32 " + remarks, talk(remarks).costOfMending(0), due);
-        CHECK.is("33 " + remarks, talk(remarks).costOfAll(), due);
+        CHECK.is("32 " + remarks, Talks.of(remarks).costOfMending(0), due);
+        CHECK.is("33 " + remarks, Talks.of(remarks).costOfAll(), due);
     }
 
     // Promises 32 and 33
@@ -439,23 +407,23 @@ public final class PromiseTest {
         costs("00 1c 04", 1);
         costs("00 1c 1c 1c 03", 2);
         costs("00 1c 1c 1c 1c 1c 1c 1c 1c 1c 00", 3);
-        SplicedTalk x = talk("00 1c 12 25 0c 0c 24 3c 3c 3c 33 04");
+        SplicedTalk x = Talks.of("00 1c 12 25 0c 0c 24 3c 3c 3c 33 04");
         CHECK.is("33 several", x.costOfAll(), 1 + 3 + 0 + 2);
         x.tie(1);
         CHECK.is("32 tied", x.costOfMending(1), 0);
         CHECK.is("33 tied", x.costOfAll(), 3);
-        CHECK.is("32 changes nothing", row(x), "00 1c 12 25 0c 0c 24 3c 3c 3c 33 04");
+        CHECK.is("32 changes nothing", Talks.row(x), "00 1c 12 25 0c 0c 24 3c 3c 3c 33 04");
 
-        SplicedTalk poor = talk("00 00 00 00 00 00 00 00 00 00 00 15");
+        SplicedTalk poor = Talks.of("00 00 00 00 00 00 00 00 00 00 00 15");
         tieFirst(poor, 10);
         CHECK.is("32 without patience", poor.costOfMending(10), 3);
         CHECK.is("33 without patience", poor.costOfAll(), 3);
     }
 
     private static void after(String remarks, int gap, int due) {
-        SplicedTalk x = talk(remarks);
+        SplicedTalk x = Talks.of(remarks);
         CHECK.is("34 " + remarks, x.brokenAfterSplice(gap), due);
-        CHECK.is("34 changes nothing", row(x), row(talk(remarks)));
+        CHECK.is("34 changes nothing", Talks.row(x), Talks.row(Talks.of(remarks)));
         x.splice(gap);
         CHECK.is("34 as splice does, " + remarks, x.brokenGaps(), due);
     }
@@ -473,26 +441,26 @@ public final class PromiseTest {
         after("00 13 26 38", 2, 2);
         after("00 10 25", 0, 1);
 
-        SplicedTalk x = talk("00 15 20");
+        SplicedTalk x = Talks.of("00 15 20");
         x.tie(0);
         CHECK.refuses(x, "34 tied", STATE, () -> x.brokenAfterSplice(0));
         CHECK.is("34 beside a tie", x.brokenAfterSplice(1), 1);
 
         SplicedTalk full = fullTalk();
         CHECK.is("34 without room", full.brokenAfterSplice(0), 0);
-        SplicedTalk poor = talk("00 00 00 00 00 00 00 00 00 00 00 13");
+        SplicedTalk poor = Talks.of("00 00 00 00 00 00 00 00 00 00 00 13");
         tieFirst(poor, 10);
         CHECK.is("34 without patience", poor.brokenAfterSplice(10), 0);
     }
 
     // Promise 35
     private static void bestSplice() {
-        CHECK.is("35 one word", talk("00").bestSplice(), -1);
-        CHECK.is("35 smooth", talk("00 10").bestSplice(), -1);
-        CHECK.is("35 of no use", talk("00 15").bestSplice(), -1);
-        CHECK.is("35 the second", talk("00 15 28").bestSplice(), 1);
-        CHECK.is("35 of two the first", talk("00 15 28 31").bestSplice(), 1);
-        SplicedTalk x = talk("00 13 26");
+        CHECK.is("35 one word", Talks.of("00").bestSplice(), -1);
+        CHECK.is("35 smooth", Talks.of("00 10").bestSplice(), -1);
+        CHECK.is("35 of no use", Talks.of("00 15").bestSplice(), -1);
+        CHECK.is("35 the second", Talks.of("00 15 28").bestSplice(), 1);
+        CHECK.is("35 of two the first", Talks.of("00 15 28 31").bestSplice(), 1);
+        SplicedTalk x = Talks.of("00 13 26");
         CHECK.is("35 the first", x.bestSplice(), 0);
         x.tie(0);
         CHECK.is("35 not a tied one", x.bestSplice(), 1);
@@ -504,7 +472,7 @@ public final class PromiseTest {
             full.say(i % 6, i < 22 ? 0 : 3);
         }
         CHECK.is("35 without room", full.bestSplice(), 21);
-        SplicedTalk poor = talk("00 00 00 00 00 00 00 00 00 00 00 13");
+        SplicedTalk poor = Talks.of("00 00 00 00 00 00 00 00 00 00 00 13");
         tieFirst(poor, 10);
         CHECK.is("35 without patience", poor.bestSplice(), 10);
     }
@@ -512,9 +480,9 @@ public final class PromiseTest {
     // Promise 36
     private static void wouldBreak() {
         CHECK.is("36 no remark", new SplicedTalk().wouldBreak(0, 0), false);
-        CHECK.is("36 coughs alone", talk("0c 0c 0c 0c 0c 0c").wouldBreak(1, 5), false);
+        CHECK.is("36 coughs alone", Talks.of("0c 0c 0c 0c 0c 0c").wouldBreak(1, 5), false);
         for (int coughs = 0; coughs < 6; coughs++) {
-            SplicedTalk x = talk("0c 1c 28 0c 19" + " 4c".repeat(coughs));
+            SplicedTalk x = Talks.of("0c 1c 28 0c 19" + " 4c".repeat(coughs));
             for (int speaker = 0; speaker < 6; speaker++) {
                 for (int topic = 0; topic < 10; topic++) {
                     int up = (topic + 1) % 10;
@@ -523,7 +491,7 @@ public final class PromiseTest {
                     CHECK.is("36 " + coughs + " coughs, " + speaker + " says " + topic, x.wouldBreak(speaker, topic), due);
                 }
             }
-            CHECK.is("36 changes nothing", row(x), "0c 1c 28 0c 19" + " 4c".repeat(coughs));
+            CHECK.is("36 changes nothing", Talks.row(x), "0c 1c 28 0c 19" + " 4c".repeat(coughs));
         }
         SplicedTalk full = fullTalk();
         CHECK.is("36 without room, broken", full.wouldBreak(0, 8), true);
@@ -542,11 +510,11 @@ public final class PromiseTest {
 
     // Promise 37
     private static void meanStrain() {
-        CHECK.is("37 one word", talk("0c 00 0c 0c").meanStrain(), 0.0);
-        CHECK.is("37 one gap", talk("00 2c 03").meanStrain(), 4.0);
-        SplicedTalk x = talk("0c 00 15 15 2c 15 0c");
+        CHECK.is("37 one word", Talks.of("0c 00 0c 0c").meanStrain(), 0.0);
+        CHECK.is("37 one gap", Talks.of("00 2c 03").meanStrain(), 4.0);
+        SplicedTalk x = Talks.of("0c 00 15 15 2c 15 0c");
         CHECK.is("37 is not cut", x.meanStrain(), 2.0);
-        SplicedTalk y = talk("00 15 15 15");
+        SplicedTalk y = Talks.of("00 15 15 15");
         CHECK.is("37 thirds", y.meanStrain(), 5.0 / 3.0);
         y.tie(0);
         CHECK.is("37 tied ones as well", y.meanStrain(), 5.0 / 3.0);
@@ -563,7 +531,7 @@ public final class PromiseTest {
     // Promise 38
     private static void digest() {
         CHECK.is("38 new", new SplicedTalk().digest(), sumOf(0, 0, 30, 0, 0, 0, 0, -1, 0, -1));
-        SplicedTalk x = talk("5c 00 13 2c 12 1c 46");
+        SplicedTalk x = Talks.of("5c 00 13 2c 12 1c 46");
         x.tie(0);
         x.removeCough(3);
         x.cough(3);
@@ -576,7 +544,7 @@ public final class PromiseTest {
 
     // Promises 13 to 16, 18 to 23, 27, 28, 31, 32 and 34, wrong inputs
     private static void noSuchIndex() {
-        SplicedTalk x = talk("0c 00 15 2c 20 0c");
+        SplicedTalk x = Talks.of("0c 00 15 2c 20 0c");
         for (int bad : new int[] {-1, 6, 24, Integer.MIN_VALUE, Integer.MAX_VALUE}) {
             noPlace(x, bad);
         }
@@ -593,11 +561,11 @@ public final class PromiseTest {
         noThread(none, 0);
         noGap(none, 0);
         noGap(none, -1);
-        SplicedTalk one = talk("03 0c");
+        SplicedTalk one = Talks.of("03 0c");
         noWord(one, 1);
         noThread(one, 1);
         noGap(one, 0);
-        SplicedTalk smooth = talk("03 03 03");
+        SplicedTalk smooth = Talks.of("03 03 03");
         noThread(smooth, 1);
     }
 
